@@ -14,6 +14,7 @@ public final class HeartPins {
     private static final int PERSONS_MAX = 5;
     private static final int PINS_MAX = 8;
     private static final int LARGE_MAX = 40;
+    private static final int MORE_THAN_ALL = PINS_MAX * LARGE_MAX + 1;
     private static final int UNDO_MAX = 8;
     private static final int KEPT_MAX = 2;
     private static final int NOTES_MAX = 8;
@@ -44,7 +45,7 @@ public final class HeartPins {
         for (int i = 0; i < FIRST_TEXT.length(); i++) {
             text.add(FIRST_TEXT.charAt(i));
         }
-        layText();
+        lay();
         text.clear();
     }
 
@@ -68,7 +69,15 @@ public final class HeartPins {
     }
 
     public int lay() {
-        return layText() ? family.persons : NO;
+        if (text.readInto(draft) != NONE || draft.persons < 1) {
+            return NO;
+        }
+        family.copyFrom(draft);
+        now.begin();
+        past.clear();
+        kept.clear();
+        notes.clear();
+        return family.persons;
     }
 
     public int person(int p, int what) {
@@ -379,18 +388,6 @@ public final class HeartPins {
         }
     }
 
-    private boolean layText() {
-        if (text.readInto(draft) != NONE || draft.persons < 1) {
-            return false;
-        }
-        family.copyFrom(draft);
-        now.begin();
-        past.clear();
-        kept.clear();
-        notes.clear();
-        return true;
-    }
-
     private void lookBehind(int n) {
         later.copyFrom(now);
         later.goDays(n);
@@ -450,7 +447,7 @@ public final class HeartPins {
     }
 
     private static long greatestDivisor(long a, long b) {
-        // Each round at least halves a number below 2 to the 63 within two rounds.
+        // Two rounds halve a at least, and it is below 2 to the 63.
         for (int round = 0; round < 200 && b != 0; round++) {
             long rest = a % b;
             a = b;
@@ -496,14 +493,6 @@ public final class HeartPins {
             room = 12;
             doorway = 5;
             rhythm = 14;
-            for (int p = 0; p < PERSONS_MAX; p++) {
-                bearable[p] = 0;
-            }
-            for (int t = 0; t < PINS_MAX; t++) {
-                owner[t] = 0;
-                kind[t] = 0;
-                told[t] = 0;
-            }
         }
 
         void copyFrom(Family other) {
@@ -562,15 +551,15 @@ public final class HeartPins {
         }
 
         int bearableBy(int p) {
-            return hasPerson(p) ? bearable[p] : 0;
+            return p >= 0 && p < PERSONS_MAX ? bearable[p] : 0;
         }
 
         int ownerOf(int t) {
-            return hasPin(t) ? owner[t] : NONE;
+            return t >= 0 && t < PINS_MAX ? owner[t] : NONE;
         }
 
         int kindOf(int t) {
-            return hasPin(t) ? kind[t] : 0;
+            return t >= 0 && t < PINS_MAX ? kind[t] : 0;
         }
     }
 
@@ -1041,7 +1030,7 @@ public final class HeartPins {
             borne = 0;
             for (int t = 0; t < PINS_MAX; t++) {
                 bearers[t] = NONE;
-                if (now.whereIs(t) >= 0) {
+                if (now.whereIs(t) >= 0 && borne < PINS_MAX) {
                     pins[borne] = t;
                     sizes[borne] = now.largeOf(t);
                     borne++;
@@ -1050,7 +1039,7 @@ public final class HeartPins {
             for (int p = 0; p < PERSONS_MAX; p++) {
                 loads[p] = 0;
             }
-            least = Integer.MAX_VALUE;
+            least = MORE_THAN_ALL;
             tryFrom(this, 0, 0);
         }
 

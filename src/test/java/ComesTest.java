@@ -208,6 +208,9 @@ public final class ComesTest {
         due.is("BAD ahead of NONE", x.relief(2), HeartPins.BAD);
         x = Due.laid("p60;");
         due.is("no pins", x.relief(0), HeartPins.NONE);
+        x = Due.laid("p0;p0;t0,0,5;t1,0,5;");
+        due.is("the pin of number 0", x.relief(0), 0);
+        due.is("the pin of number 0: the other breaks", x.relief(1), 1);
     }
 
     private static void pair() {

@@ -154,6 +154,15 @@ public final class FamiliesTest {
         due.is("laid: pin(0, 2)", x.pin(0, 2), 9);
         due.is("laid: fault() of the text that stays", x.fault(), HeartPins.NONE);
         due.is("the text can be laid again", x.lay(), 2);
+        x = Due.laid("p60;t0,0,5;h1,9,30;");
+        x.stick(0);
+        x.pass(3);
+        due.is("walked", x.heart(3), 3);
+        x.lay();
+        due.is("laid anew: it has walked 0", x.heart(3), 0);
+        due.is("laid anew: day 0", x.count(2), 0);
+        due.is("laid anew: as large as told", x.pin(0, 2), 5);
+        due.is("laid anew: borne by whose it is", x.pin(0, 4), 0);
         x = Due.laid("p5;");
         due.is("without a heart: room", x.heart(0), 12);
         due.is("without a heart: door", x.heart(1), 5);

@@ -139,7 +139,18 @@ public final class MonthsTest {
             int stuck = draw % 8 <= 2 && t > 0 ? 1 << t : 0;
             due.is("felt for: month(" + z + ", 1, 0)", x.month(z, 1, 0), 30 + felt - stuck);
         }
+        alone();
         due.is("no pins", Due.laid("p60;").month(77, 60, 0), 0);
+    }
+
+    /** One pin of one person: each draw is of it. */
+    private static void alone() {
+        HeartPins x = Due.laid("p60;t0,0,7;h3,20,30;");
+        for (int z = 0; z < 40; z++) {
+            boolean stuck = draw(z, 0) % 8 <= 2;
+            due.is("alone: month(" + z + ", 1, 0)", x.month(z, 1, 0), stuck ? 0 : 7);
+            due.is("alone: month(" + z + ", 1, 1)", x.month(z, 1, 1), stuck ? 1 : 0);
+        }
     }
 
     /** The same acts and days by hand on another object come to the same. */

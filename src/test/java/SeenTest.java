@@ -170,6 +170,12 @@ public final class SeenTest {
         x.mark(5);
         x.mark(5);
         due.is("one each", x.which(0, -1), 0);
+        x.forget();
+        x.mark(3);
+        x.mark(5);
+        due.is("one way", x.which(0, -1), 1);
+        due.is("one way: which(0, 0)", x.which(0, 0), 1);
+        due.is("one way: which(0, 1)", x.which(0, 1), 0);
         x = Due.laid("p60;t0,0,5;t0,0,5;t0,0,5;t0,0,5;t0,0,5;t0,0,5;t0,0,5;t0,0,5;");
         for (int k = 0; k < 8; k++) {
             x.mark(5);
