@@ -139,6 +139,12 @@ public final class ComesTest {
         due.is("only one", x.best(0, 0), 1);
         x = Due.laid("p4;t0,0,1;t0,0,1;t0,0,1;t0,0,3;h60,20,30;");
         due.is("by fewest, not by the lowest bits", x.best(0, 1), 0b1000);
+        x = Due.laid("p0;t0,0,1;t0,0,1;t0,0,1;t0,0,1;t0,0,1;t0,0,1;t0,0,1;t0,0,1;h60,20,30;");
+        due.is("all eight", x.best(20, 0), 8);
+        due.is("all eight", x.best(20, 1), 255);
+        x.stick(3);
+        due.is("all seven", x.best(20, 0), 7);
+        due.is("all seven", x.best(20, 1), 247);
         x = Due.laid("p60;t0,1,20;t0,1,20;t0,1,17;h60,20,1;");
         due.is("what is shaken out is not borne", x.best(3, 0), 1);
         due.is("the lowest", x.best(3, 1), 0b001);
@@ -182,6 +188,10 @@ public final class ComesTest {
             due.is("eight of 1 by five: share(" + t + ")", x.share(t), eight[t]);
         }
         due.is("nothing is done", x.pin(2, 4), 0);
+        x = Due.laid("p9;t0,1,20;t0,1,20;t0,1,20;t0,1,20;t0,1,20;t0,1,20;t0,1,20;t0,1,20;");
+        x.pass(20);
+        due.is("the greatest load there is", x.share(-1), 320);
+        due.is("the greatest load there is: share(7)", x.share(7), 0);
     }
 
     private static void relief() {
