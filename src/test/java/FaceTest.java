@@ -4,7 +4,7 @@ import java.lang.reflect.Modifier;
 import java.util.Set;
 import java.util.TreeSet;
 
-/** The face: its constants, its constructor and its methods, and nothing beside them; and that no call makes an object. */
+/** The face: its constants, its constructor and its methods, and nothing beside them; none throws, and there is room for all. */
 public final class FaceTest {
     private static final Due due = new Due("FaceTest");
 
@@ -73,43 +73,52 @@ public final class FaceTest {
     /** Each method with each number beside its bounds: none throws. */
     private static void wildNumbers() throws ReflectiveOperationException {
         int[] wild = {Integer.MIN_VALUE, -65536, -2, -1, 0, 1, 3, 8, 13, 41, 61, 200, 10000, Integer.MAX_VALUE};
-        HeartPins[] objects = {new HeartPins(), Due.laid("p1;"), Due.laid("p0;p60;t1,3,20;h0,1,1;")};
-        for (HeartPins x : objects) {
+        for (String text : new String[] {"", "p1;", "p0;p60;t1,3,20;h0,1,1;"}) {
             for (Method method : HeartPins.class.getDeclaredMethods()) {
-                if (!Modifier.isPublic(method.getModifiers())) {
-                    continue;
-                }
-                int many = method.getParameterCount();
-                int ways = (int) Math.round(Math.pow(wild.length, many));
-                for (int way = 0; way < ways; way++) {
-                    Object[] numbers = new Object[many];
-                    int rest = way;
-                    for (int i = 0; i < many; i++) {
-                        numbers[i] = wild[rest % wild.length];
-                        rest /= wild.length;
-                    }
-                    int answer = (Integer) method.invoke(x, numbers);
-                    due.is(method.getName() + " answers no less than NONE", answer >= HeartPins.NONE ? 1 : 0, 1);
+                if (Modifier.isPublic(method.getModifiers())) {
+                    everyWay(text, method, wild);
                 }
             }
         }
     }
 
-    /** All calls of a run live in one room, so none may make a row of its own. */
+    private static void everyWay(String text, Method method, int[] wild) throws ReflectiveOperationException {
+        int many = method.getParameterCount();
+        int ways = (int) Math.round(Math.pow(wild.length, many));
+        HeartPins x = null;
+        for (int way = 0; way < ways; way++) {
+            if (way % 400 == 0) {
+                x = text.isEmpty() ? new HeartPins() : Due.laid(text);
+            }
+            Object[] numbers = new Object[many];
+            int rest = way;
+            for (int i = 0; i < many; i++) {
+                numbers[i] = wild[rest % wild.length];
+                rest /= wild.length;
+            }
+            int answer = (Integer) method.invoke(x, numbers);
+            due.is(method.getName() + " answers no less than NONE", answer >= HeartPins.NONE ? 1 : 0, 1);
+        }
+    }
+
+    /**
+     * "All calls of one run live in ONE room: some 600,000 objects and arrays": each of them takes 16 bytes or more, so a
+     * run of 512 calls on each of two objects may not take more than as many times 16.
+     */
     private static void room() {
         com.sun.management.ThreadMXBean bean =
             (com.sun.management.ThreadMXBean) java.lang.management.ManagementFactory.getThreadMXBean();
-        HeartPins x = new HeartPins();
-        HeartPins y = new HeartPins();
-        everyCall(x, y);
+        everyCall(new HeartPins(), new HeartPins());
         bean.getCurrentThreadAllocatedBytes();
         long before = bean.getCurrentThreadAllocatedBytes();
+        HeartPins x = new HeartPins();
+        HeartPins y = new HeartPins();
         long sum = 0;
-        for (int i = 0; i < 100; i++) {
+        for (int i = 0; i < 16; i++) {
             sum += everyCall(x, y);
         }
         long made = bean.getCurrentThreadAllocatedBytes() - before;
-        due.is("calls answer (" + sum + "), and in 3700 of them less is made than one row for each: " + made, made < 40000 ? 1 : 0, 1);
+        due.is("calls answer (" + sum + "), and there is room for them: " + made, made < 16 * 600_000 ? 1 : 0, 1);
     }
 
     private static int everyCall(HeartPins x, HeartPins y) {

@@ -118,10 +118,10 @@ public final class MonthsTest {
         return x * x % 65521;
     }
 
-    /** By z and day: of the default family, what stands behind the first day, worked out from the draw. */
+    /** By z: of a family whose pins are told apart in a sum, what stands behind the first day, worked out from the draw. */
     private static void months() {
-        HeartPins x = Due.laid("p60;p60;p60;t0,0,1;t1,0,2;t2,0,4;t0,0,8;t1,0,16;h3,20,30;");
-        for (int z = 0; z < 300; z++) {
+        HeartPins x = five();
+        for (int z = 0; z < 200; z++) {
             long draw = draw(z, 0);
             int t = (int) (draw / 8 % 5);
             boolean stuck = draw % 8 <= 2;
@@ -131,6 +131,7 @@ public final class MonthsTest {
         due.is("nothing is done", x.count(2), 0);
         due.is("nothing is done", x.count(3), 5);
         due.is("nothing is done", x.count(10), 0);
+        x = five();
         x.stick(0);
         for (int z = 0; z < 300; z++) {
             long draw = draw(z, 0);
@@ -141,6 +142,10 @@ public final class MonthsTest {
         }
         alone();
         due.is("no pins", Due.laid("p60;").month(77, 60, 0), 0);
+    }
+
+    private static HeartPins five() {
+        return Due.laid("p60;p60;p60;t0,0,1;t1,0,2;t2,0,4;t0,0,8;t1,0,16;h3,20,30;");
     }
 
     /** One pin of one person: each draw is of it. */
