@@ -37,6 +37,9 @@ public final class ComesEdgesTest {
         pairFirst();
         pairOfTwo();
         pairNotGoneNotShakenOut();
+        comesToFortyAtMost();
+        comesToNothing();
+        comesByTheNumberOfTheDay();
         due.end();
     }
 
@@ -530,5 +533,71 @@ public final class ComesEdgesTest {
         due.is("3 is shaken out", x.pair(8), HeartPins.NONE);
         due.is("3 is shaken out", x.pair(5), HeartPins.NONE);
         due.is("5 and 2", x.pair(7), 3);
+    }
+
+    // "(40 at most)" in all that comes: a sharp one of 20 or 21 is 40 behind 20 days and on.
+    private static void comesToFortyAtMost() {
+        HeartPins x = Due.laid("p40;t0,1,20;h60,20,30;");
+        due.is("behind(20, 0)", x.behind(20, 0), 40);
+        due.is("behind(21, 0)", x.behind(21, 0), 40);
+        due.is("behind(60, 0)", x.behind(60, 0), 40);
+        due.is("breaks(0)", x.breaks(0), HeartPins.NONE);
+        x.pass(1);
+        due.is("21 by 40: best(20, 0)", x.best(20, 0), 0);
+        x = Due.laid("p60;t0,1,20;h40,1,30;");
+        x.stick(0);
+        due.is("40 in a heart of room 40: door()", x.door(), HeartPins.NONE);
+        due.is("40 in a heart of room 40: walked(29)", x.walked(29), 0);
+        x = Due.laid("p60;t0,1,20;h39,1,30;");
+        x.stick(0);
+        due.is("40 in a heart of room 39: door()", x.door(), 21);
+        x = Due.laid("p60;t0,0,20;t0,0,1;h20,20,30;");
+        x.stick(0);
+        x.stick(1);
+        due.is("two in a full heart: walked(20)", x.walked(20), 20);
+        due.is("two in a full heart: best(19, 0)", x.best(19, 0), 0);
+        due.is("two in a full heart: best(20, 0)", x.best(20, 0), HeartPins.NONE);
+    }
+
+    // "what is as LARGE as 0 or less is GONE (0)" in all that comes: it is no less than 0, and comes back no more.
+    private static void comesToNothing() {
+        HeartPins x = Due.laid("p6;t0,2,1;t0,1,5;h6,1,30;");
+        int[] loads = {6, 6, 7, 8, 9};
+        for (int n = 0; n < loads.length; n++) {
+            due.is("behind(" + n + ", 0)", x.behind(n, 0), loads[n]);
+        }
+        due.is("breaks(0)", x.breaks(0), 2);
+        due.is("best(1, 0)", x.best(1, 0), 0);
+        due.is("best(2, 0)", x.best(2, 0), 1);
+        due.is("best(2, 1)", x.best(2, 1), 2);
+        x.stick(0);
+        x.stick(1);
+        due.is("7 in it from day 2 on: door()", x.door(), 3);
+        due.is("nothing borne: behind(60, 0)", x.behind(60, 0), 0);
+        x = Due.laid("p60;t0,2,2;");
+        due.is("a dull one: behind(1, 0)", x.behind(1, 0), 1);
+        due.is("a dull one: behind(2, 0)", x.behind(2, 0), 0);
+        due.is("a dull one: behind(3, 0)", x.behind(3, 0), 0);
+        due.is("a dull one: behind(60, 0)", x.behind(60, 0), 0);
+    }
+
+    // "by the number of the DAY that goes by", and SHAKEN OUT by it, too: not by how many days from now it is.
+    private static void comesByTheNumberOfTheDay() {
+        HeartPins x = Due.laid("p6;t0,3,5;h6,1,30;");
+        x.pass(1);
+        due.is("6 by 6 on day 1: breaks(0)", x.breaks(0), HeartPins.NONE);
+        due.is("6 by 6 on day 1: best(20, 0)", x.best(20, 0), 0);
+        due.is("6 by 6 on day 1: behind(1, 0)", x.behind(1, 0), 5);
+        x.stick(0);
+        due.is("6 in a heart of room 6 on day 1: door()", x.door(), HeartPins.NONE);
+        for (int door = 14; door <= 16; door++) {
+            x = Due.laid("p60;t0,0,5;h4," + door + ",20;");
+            x.pass(5);
+            x.stick(0);
+            due.is("from day 5, door " + door + ": door()", x.door(), door == 14 ? 14 : HeartPins.NONE);
+            due.is("from day 5, door " + door + ": walked(14)", x.walked(14), 14);
+            due.is("from day 5, door " + door + ": walked(15)", x.walked(15), 0);
+            due.is("from day 5, door " + door + ": best(20, 0)", x.best(20, 0), door == 14 ? HeartPins.NONE : 0);
+        }
     }
 }

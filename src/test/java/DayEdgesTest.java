@@ -317,6 +317,15 @@ public final class DayEdgesTest {
         x.stick(0);
         x.pass(1);
         due.is("on again", x.heart(3), 1);
+        x = Due.laid("p60;t0,0,5;t0,0,2;h4,9,30;");
+        x.stick(0);
+        x.stick(1);
+        x.pass(2);
+        x.feel(0, 0);
+        due.is("as much in it as room", x.heart(4), 4);
+        due.is("2", x.heart(3), 2);
+        x.pass(1);
+        due.is("not empty, but not full: 1 back", x.heart(3), 1);
     }
 
     private static void walksAsAheadOfTheDay() {

@@ -179,6 +179,10 @@ public final class MonthEdgesTest {
         x = Due.laid("p0;t0,2,1;");
         x.pass(1);
         chance(x, 0, 8, 10, 0, 1);
+        // 6 behind the first day, when 1 is gone, and 7 behind the second: it is no less than 0.
+        x = Due.laid("p6;t0,2,1;t0,1,5;");
+        chance(x, 0, 1, 0, 0, 1);
+        chance(x, 0, 2, 0, 1, 1);
         x = Due.laid("p5;t0,0,3;t0,0,3;");
         chance(x, 0, 1, 0, 1, 1);
         x = Due.laid("p7;t0,0,3;t0,0,3;");
@@ -306,6 +310,16 @@ public final class MonthEdgesTest {
         }
     }
 
+    private static final Scenes.Scene UNEVEN = new Scenes.Scene("rich, day 7", 4, 8, () -> {
+        HeartPins x = Scenes.RICH.make().get();
+        x.pass(1);
+        return x;
+    });
+    private static final Scenes.Scene SHARP = new Scenes.Scene("eight sharp ones of 20", 2, 8,
+        () -> Due.laid("p60;p60;" + "t0,1,20;".repeat(8) + "h60,20,30;"));
+    private static final Scenes.Scene DULL = new Scenes.Scene("dull and odd ones", 1, 8,
+        () -> Due.laid("p60;t0,2,1;t0,2,2;t0,2,3;t0,3,1;t0,3,20;t0,2,20;t0,3,2;t0,2,4;h9,3,11;"));
+
     // "of n DAYS from now on (nothing changes by it)": from the day it is, as far as it has walked, with what is in it.
     private static void monthFromNowOn() {
         for (int z = 0; z < 10000; z += 401) {
@@ -313,6 +327,9 @@ public final class MonthEdgesTest {
                 byHand(Scenes.RICH, z, n);
                 byHand(Scenes.MOST, z, n);
                 byHand(Scenes.ONE, z, n);
+                byHand(UNEVEN, z, n);
+                byHand(SHARP, z, n);
+                byHand(DULL, z, n);
             }
         }
         Twins.stayAlike(due, "months", Scenes.RICH.make(), x -> {

@@ -85,6 +85,8 @@ public final class RefusedTest {
         no(atDoor, "stick(1)", (x, n) -> x.stick(1));
         no(Scenes.NEW, "undo()", (x, n) -> x.undo());
         no(Scenes.NEW, "back()", (x, n) -> x.back());
+        no(Scenes.KEPT, "undo()", (x, n) -> x.undo());
+        no(Scenes.DONE, "back()", (x, n) -> x.back());
     }
 
     private static void textsThatCannotBeLaid() {

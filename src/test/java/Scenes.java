@@ -13,6 +13,25 @@ final class Scenes {
     static final Scene RICH = new Scene("rich", 4, 8, Scenes::rich);
     static final Scene STUCK = new Scene("nothing can be done", 1, 2, Scenes::stuck);
 
+    static final Scene DONE = new Scene("much to undo, nothing kept", 4, 8, () -> {
+        HeartPins x = new HeartPins();
+        for (int t = 0; t < 8; t++) {
+            x.stick(t);
+            x.pass(1);
+        }
+        return x;
+    });
+    static final Scene KEPT = new Scene("nothing to undo, two kept", 4, 8, () -> {
+        HeartPins x = Due.laid("p12;p20;p9;p15;t0,0,5;t0,1,3;t1,2,9;t1,3,4;t2,1,6;t2,0,2;t3,3,7;t3,2,4;h10,4,9;");
+        x.stick(0);
+        x.keep();
+        x.stick(1);
+        x.keep();
+        x.undo();
+        x.undo();
+        return x;
+    });
+
     static final Scene[] ALL = {NEW, ALONE, ONE, MOST, RICH, STUCK};
 
     /**
@@ -55,10 +74,7 @@ final class Scenes {
             x.see(1, i, 40 - i);
             x.mark(40 - i);
         }
-        x.wipe();
-        for (int i = 0; i < 200; i++) {
-            x.write("p10;".charAt(i % 4));
-        }
+        Due.text(x, "p10;p11;" + "h10,1,1;".repeat(24));
         return x;
     }
 }

@@ -121,6 +121,9 @@ public final class TextEdgesTest {
         due.is("200 letters", x.count(12), 200);
         due.is("200 letters: lay()", x.lay(), 2);
         due.is("200 letters: the last number", x.person(1, 0), 60);
+        due.is("the 201st letter", x.write('x'), HeartPins.FULL);
+        due.is("the 201st letter is over none: fault()", x.fault(), HeartPins.NONE);
+        due.is("the 201st letter is over none: lay()", x.lay(), 2);
         x = new HeartPins();
         Due.text(x, hearts() + "p1;p1;p60;");
         due.is("the 201st letter is not written: fault()", x.fault(), 198);
